@@ -348,14 +348,14 @@ public final class HallGuards {
         if (list.count == 0) {
             throw new IllegalStateException("the side has no move");
         }
-        int best = list.codeAt(0);
-        int bestWorth = Integer.MIN_VALUE;
+        int best = -1;
+        int most = 0;
         for (int place = 0; place < list.count; place++) {
             int code = list.codeAt(place);
             int worth = advice.worth(state.board, code / SQUARES, code % SQUARES);
-            if (worth > bestWorth) {
-                bestWorth = worth;
+            if (best < 0 || worth > most) {
                 best = code;
+                most = worth;
             }
         }
         return best;
@@ -530,8 +530,11 @@ public final class HallGuards {
         return (CORNER_BITS >>> square & 1L) != 0;
     }
 
-    /** The next square in a direction; -1 if it is not on the board. */
+    /** The next square in a direction; -1 if it, or the square itself, is not on the board. */
     private static int beside(int square, int direction) {
+        if (square < 0) {
+            return -1;
+        }
         switch (direction) {
             case UP:
                 return square >= LINE ? square - LINE : -1;
@@ -542,6 +545,10 @@ public final class HallGuards {
             default:
                 return square < SQUARES - LINE ? square + LINE : -1;
         }
+    }
+
+    private static int opposite(int direction) {
+        return DOWN - direction;
     }
 
     /** The direction of a straight way; -1 if the squares are one or not in a line. */
@@ -785,7 +792,7 @@ public final class HallGuards {
                 if (mayStop(piece, to)) {
                     moves.add(from, to);
                 }
-                to = beside(to, UP + DOWN - direction);
+                to = beside(to, opposite(direction));
             }
         }
 

@@ -91,6 +91,10 @@ public final class AccountsTests {
         digest("of an empty board", hall, 1, 1, "");
         hall.put(0, 0, 3);
         digest("of the king in a corner", hall, 1, 1, "");
+        String full = ".KTTTT./TTTTTTT/TTTTTTT/TTT.TTT/TTTTTTT/TTTTTTT/.TTTTT.";
+        HallGuards half = Check.board(full.split("/"));
+        Check.due("45 a single move", 0.5, half::meanMoves);
+        digest("of a single move", half, 0, 0, "");
         String[] boards = {".T.K.T./...T...", "...K.../T..../.....T./TT/.G.G.", "..K.T../..T....", "......./T..KT../..G"};
         for (String rows : boards) {
             HallGuards other = Check.board(rows.split("/"));

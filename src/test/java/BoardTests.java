@@ -7,6 +7,7 @@ public final class BoardTests {
         pieces();
         hostile();
         king();
+        firstSquare();
         game();
         refused();
         Check.end("BoardTests");
@@ -75,6 +76,19 @@ public final class BoardTests {
         Check.due("18 moved", 22, other::kingAt);
         other.undo();
         Check.due("18 undone", 1, other::kingAt);
+    }
+
+    /** The square 0 counts like the others. */
+    private static void firstSquare() {
+        HallGuards hall = Check.board("K......", ".......", ".......", ".....T.");
+        Check.due("16 pieceAt(0, 0)", 3, () -> hall.pieceAt(0, 0));
+        Check.due("17 piecesOf(1)", 1, () -> hall.piecesOf(1));
+        Check.due("27 movesFrom(0, 0)", 12, () -> hall.movesFrom(0, 0));
+        Check.due("28 movesByPieces(1)", 12, () -> hall.movesByPieces(1));
+        Check.due("29 movesBySquares(1)", 12, () -> hall.movesBySquares(1));
+        Check.due("31 the king can move", false, () -> hall.wouldWin(26, 25));
+        Check.due("33 moveAt(1, 0)", 1, () -> hall.moveAt(1, 0));
+        Check.due("40 bestMove(1)", 6, () -> hall.bestMove(1));
     }
 
     private static void game() {

@@ -1,6 +1,7 @@
 import java.lang.reflect.InvocationTargetException;
 import java.lang.reflect.Method;
 import java.lang.reflect.Modifier;
+import java.util.ArrayList;
 import java.util.Arrays;
 import java.util.List;
 import java.util.Random;
@@ -19,15 +20,17 @@ public final class LimitsTests {
 
     private static void oddArguments() throws IllegalAccessException {
         Random random = new Random(7);
-        Method[] methods = HallGuards.class.getDeclaredMethods();
-        Arrays.sort(methods, (one, other) -> one.getName().compareTo(other.getName()));
+        List<Method> methods = new ArrayList<>();
+        for (Method method : HallGuards.class.getDeclaredMethods()) {
+            if (Modifier.isPublic(method.getModifiers())) {
+                methods.add(method);
+            }
+        }
+        methods.sort((one, other) -> one.getName().compareTo(other.getName()));
         for (int run = 0; run < 20; run++) {
             HallGuards hall = new HallGuards();
             for (int call = 0; call < 2000; call++) {
-                Method method = methods[random.nextInt(methods.length)];
-                if (Modifier.isPublic(method.getModifiers())) {
-                    odd(hall, method, random);
-                }
+                odd(hall, methods.get(random.nextInt(methods.size())), random);
             }
         }
     }

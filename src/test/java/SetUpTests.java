@@ -111,6 +111,8 @@ public final class SetUpTests {
         Check.refused("4 piece 4", ARGUMENT, hall, () -> hall.put(0, 1, 4));
         Check.refused("4 piece before state", ARGUMENT, hall, () -> hall.put(0, 0, 4));
         Check.refused("4 two kings", STATE, hall, () -> hall.put(2, 3, 3));
+        HallGuards cornered = Check.board("K......");
+        Check.refused("4 two kings, one in the first corner", STATE, cornered, () -> cornered.put(2, 3, 3));
         for (int corner : new int[] {0, 6, 42, 48}) {
             Check.refused("4 a table in a corner", STATE, hall, () -> hall.put(corner / 7, corner % 7, 1));
             Check.refused("4 a guard in a corner", STATE, hall, () -> hall.put(corner / 7, corner % 7, 2));
