@@ -42,6 +42,11 @@ final class Check {
         };
     }
 
+    /** How many checks were made so far. */
+    static int made() {
+        return passed + failed;
+    }
+
     static void end(String name) {
         System.out.println(name + ": " + passed + " checks passed, " + failed + " failed");
         if (failed != 0) {
