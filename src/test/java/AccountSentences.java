@@ -106,6 +106,8 @@ final class AccountSentences extends Sentences {
         winFirst(hall);
         due("two kings", 2, () -> hall.takenOf(1));
         due("the table of before", 1, () -> hall.takenOf(0));
+        goAllOf(hall, "d1b1;c4c1");
+        due("a table more", 2, () -> hall.takenOf(0));
         sideRefused(hall, hall::takenOf);
         says("Returns the pieces.");
         HallGuards three = game(0, "...T/...G/.TG.GT////.K.T");
@@ -223,6 +225,8 @@ final class AccountSentences extends Sentences {
         for (String rows : boards) {
             same(rows, board(rows), 0, 0, "");
         }
+        same("a single move", board(".KTTTT./TTTTTTT/TTTTTTT/TTT.TTT/TTTTTTT/TTTTTTT/.TTTTT."), 0, 0, "");
+        same("three moves", board(".KTTTT./.TTTTTT/TTTTTTT/TTT.TTT/TTTTTTT/TTTTTTT/.TTTTT."), 0, 0, "");
     }
 
     /** From no moves to many: the bits of means with and without a half. */

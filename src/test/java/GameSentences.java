@@ -62,6 +62,11 @@ final class GameSentences extends Sentences {
         guard.turnStrong();
         go(guard, "b1c1");
         stands("a guard has a move", guard, 1, 0, 0, 0);
+        HallGuards one = game(0, ".T.KT//...T");
+        one.turnStrong();
+        go(one, "b1c1");
+        due("the king's moves", 1, () -> one.movesFrom(0, 3));
+        stands("the king has one move", one, 1, 0, 0, 0);
         HallGuards last = game(1, "/..GT/....G//.K");
         due("the last table is taken", 1, () -> go(last, "e3e2"));
         stands("no table is left", last, 3, 0, 1, 0);
@@ -114,6 +119,12 @@ final class GameSentences extends Sentences {
         HallGuards kind = game(0, "/T...K/.....G");
         goAll(kind, "a2b2;e2e3;b2a2;f3f2;a2b2;f2e2;b2a2;e3f3");
         due("the king and a guard in each other's place", 1, kind::timesSeen);
+        HallGuards place = game(0, "/.TG///..G//....K");
+        goAll(place, "b2b3;e7f7;b3b5;f7e7");
+        due("a table beside another guard", 1, place::timesSeen);
+        HallGuards row = game(0, ".T//////....K");
+        goAll(row, "b1d1;e7f7;d1c1;f7e7");
+        due("a table on another square of the first row", 1, row::timesSeen);
         HallGuards strong = game(0, "/T...K");
         goAll(strong, "a2b2;e2f2;b2a2");
         strong.turnStrong();

@@ -164,6 +164,7 @@ final class MoveSentences extends Sentences {
         says("Returns the moves, as many as by movesByPieces().");
         have("", 0, 0);
         have("//////......K", 0, 12);
+        have("...K", 0, 12);
         have("..T", 10, 0);
         have("///G", 0, 9);
         have("///...K", 0, 12);
@@ -207,6 +208,7 @@ final class MoveSentences extends Sentences {
         squaresRefused(hall, from -> hall.wouldWin(from, 1), to -> hall.wouldWin(3, to));
         says("Returns true if it takes the king, or brings him to a corner");
         wins("it takes the king", true, "/T..KT", "a2c2");
+        wins("it takes the king, and a guard has moves", true, "/T..KT/////.G", "a2c2");
         wins("it takes a guard", false, "/T..GT/////.K", "a2c2");
         wins("it takes a guard, and there is no king", false, "/T..GT/////.G", "a2c2");
         wins("it takes nothing, and there is no king", false, "/T...T/////.G", "a2c2");
@@ -239,7 +241,7 @@ final class MoveSentences extends Sentences {
         wins("from a corner to another", true, "K/..T", "a1g1");
         wins("out of a corner", false, "K/..T", "a1d1");
         wins("a guard, with the king in a corner", false, "K/..T/.G", "b3c3");
-        wins("a table, with the king in a corner", false, "K/..T/.G", "c2c3");
+        wins("a table, with the king in a corner", false, "K///.....T", "f4e4");
     }
 
     private static void winningMoves() {

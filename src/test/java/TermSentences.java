@@ -173,6 +173,9 @@ final class TermSentences extends Sentences {
             hostileTo("", corner, true, true);
         }
         hostileTo("K", "a1", true, true);
+        hostileTo("......K", "g1", true, true);
+        hostileTo("//////K", "a7", true, true);
+        hostileTo("//////......K", "g7", true, true);
         hostileTo("", "d4", true, true);
         hostileTo("///...K", "d4", true, false);
         hostileTo("/.T", "b2", false, true);

@@ -174,6 +174,7 @@ final class WaySentences extends Sentences {
         says("Returns 1000 if it would win");
         worth("nothing", 0, "...T/...T/...G/TTGKGTT/...G/...T/...T", "d1b1");
         worth("takes the king", 1000, "/T..KT", "a2c2");
+        worth("takes the king, and a guard has moves", 1000, "/T..KT/////.G", "a2c2");
         worth("takes the king and a guard", 1000, "//.TG.KT////...T", "d7d3");
         worth("leaves no move", 1000, ".TG/....G/////...K", "e2b2");
         worth("leaves nobody", 1000, "/..GT/....G//.K", "e3e2");
