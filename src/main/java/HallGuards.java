@@ -204,7 +204,7 @@ public final class HallGuards {
         return saves.count;
     }
 
-    // ---- the board as it is
+    // ---- the board as it is; nothing is changed
 
     public int pieceAt(int row, int column) throws IndexOutOfBoundsException {
         needSquare(row, column);
@@ -253,7 +253,7 @@ public final class HallGuards {
         return state.timesThere();
     }
 
-    // ---- moves that are possible
+    // ---- moves that are possible; nothing is changed
 
     public boolean canMove(int from, int to) throws IndexOutOfBoundsException {
         needSquares(from, to);
@@ -304,7 +304,7 @@ public final class HallGuards {
         return list.codeAt(place);
     }
 
-    // ---- the way of the king
+    // ---- the way of the king; nothing is changed
 
     public int kingMovesByRounds() throws IllegalStateException {
         int rounds = way.byRounds(state.board);
@@ -335,7 +335,7 @@ public final class HallGuards {
         return state.board.countHostileBesideKing();
     }
 
-    // ---- advice
+    // ---- advice; nothing is changed
 
     public int worthOf(int from, int to) throws IndexOutOfBoundsException, IllegalStateException {
         needPossible(from, to);
@@ -361,7 +361,7 @@ public final class HallGuards {
         return best;
     }
 
-    // ---- accounts
+    // ---- accounts; nothing is changed
 
     public int wins(int side) throws IndexOutOfBoundsException {
         needSide(side);

@@ -23,6 +23,8 @@ public final class FaceTests {
         Check.due("public and final", true, () -> Modifier.isFinal(HallGuards.class.getModifiers()));
         Check.due("no member besides", "[]", () -> besides().toString());
         Check.due("no private method with a public one's name", "[]", () -> sameNames().toString());
+        Check.due("what the interface says ahead of its calls", saidInDocument(shared.resolve("DOC.md")),
+                FaceTests::saidInClass);
         Check.end("FaceTests");
     }
 
@@ -64,6 +66,35 @@ public final class FaceTests {
             thrown.add(type.getSimpleName());
         }
         return "(" + String.join(",", types) + ") throws " + String.join(",", thrown);
+    }
+
+    /** "---- moves: move" for each line that tells what stands ahead of which calls. */
+    private static String saidInDocument(Path document) throws IOException {
+        StringBuilder said = new StringBuilder();
+        for (String line : Files.readAllLines(document)) {
+            Matcher ahead = Pattern.compile("Ahead of the calls (.*) the interface says: (---- .*)\\.").matcher(line);
+            if (ahead.matches()) {
+                said.append(ahead.group(2)).append(": ").append(ahead.group(1).replace("`", "")).append('\n');
+            }
+        }
+        return said.toString();
+    }
+
+    private static String saidInClass() throws IOException {
+        StringBuilder said = new StringBuilder();
+        boolean first = false;
+        for (String line : Files.readAllLines(Path.of("src/main/java/HallGuards.java"))) {
+            Matcher call = Pattern.compile("    public \\w+ (\\w+)\\(.*").matcher(line);
+            if (line.startsWith("    // ---- ")) {
+                first = true;
+                said.append(said.length() == 0 ? "" : "\n").append(line.substring(7)).append(": ");
+            } else if (call.matches()) {
+                said.append(first ? "" : ", ").append(call.group(1));
+                first = false;
+            }
+        }
+        // behind the face come headings without calls
+        return said.toString().replaceAll("---- [^\n]*: (\n|$)", "");
     }
 
     private static List<String> besides() {
